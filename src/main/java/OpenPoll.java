@@ -432,7 +432,6 @@ public final class OpenPoll {
             keys[1] = key1;
             keys[2] = key2;
             jointKey = Group.times(Group.times(key0, key1), key2);
-            entries = 0;
             for (int voter = 0; voter < VOTERS; voter++) {
                 registered[voter] = false;
                 hasCast[voter] = false;
@@ -722,9 +721,13 @@ public final class OpenPoll {
         private int steps;
         private long sides;
 
-        // n is 2 or more
+        // the greatest power of two less than n, which is 2 or more; 2 * m could be too great for an int
         private static int split(int n) {
-            return Integer.highestOneBit(n - 1);
+            int m = 1;
+            while (m < n - m) {
+                m *= 2;
+            }
+            return m;
         }
 
         private void goDown(boolean second) {

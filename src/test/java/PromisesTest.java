@@ -24,6 +24,7 @@ public final class PromisesTest {
         promise14AuditOfEachRecord();
         promise14AuditOfKinds();
         promise14AuditOfTheResult();
+        promise14AuditOfSharesThatOnlySeemProved();
         promise15Leaf();
         promise16Head();
         promise17Prove();
@@ -155,6 +156,12 @@ public final class PromisesTest {
         again.open(0, 0);
         again.open(1, 0);
         Check.illegalState("begin again: nobody has opened before", again::finish);
+        OpenPoll third = done(1);
+        third.begin(0, 0, 0);
+        for (int voter = 0; voter < 10; voter++) {
+            third.register(voter);
+            record("begin again: nothing is left of before", third, 1 + voter, 1, voter);
+        }
     }
 
     private static void promise3Register() {
@@ -278,6 +285,15 @@ public final class PromisesTest {
         }
         Check.equal("mix: nothing behind a throw", poll.records(), 19);
 
+        OpenPoll four = closed(4);
+        // order 17 of four: 17 = 1 + 4 * 4, 4 = 1 + 3 * 1, 1 = 1 + 2 * 0, so the entries 1, 2, 3, 0
+        four.mix(6, 17);
+        int[] ofFour = {1, 2, 3, 0};
+        for (int i = 0; i < 4; i++) {
+            int r = 10 + ofFour[i] + Model.digestNumber(6, i);
+            record("mix: entry " + i + " of four", four, 15 + i, 5, Model.power(4, r),
+                Model.power(4, ofFour[i] + 23L * r));
+        }
         OpenPoll ten = closed(10);
         Check.illegalArgument("mix: 10! is no order", () -> ten.mix(1, 3628800));
         ten.mix(1, 3628799);
@@ -371,6 +387,13 @@ public final class PromisesTest {
         Check.equal("finish: nobody voted", done(0).votes(0), 0);
         Check.equal("finish: nobody voted, answer", opened(0).finish(), 0);
         Check.equal("finish: all ten", opened(10).finish(), 10);
+
+        for (int missing = 0; missing < 3; missing++) {
+            OpenPoll two = closed(1);
+            two.open((missing + 1) % 3, 0);
+            two.open((missing + 2) % 3, 0);
+            Check.illegalState("finish: without trustee " + missing, two::finish);
+        }
 
         OpenPoll full = closed(0);
         while (full.records() < 160) {
@@ -680,6 +703,38 @@ public final class PromisesTest {
         Check.equal("audit: who then opens twice", same.audit(), 6);
         same.forge(6, 1, 0);
         Check.equal("audit: the two changed about", same.audit(), -1);
+    }
+
+    /** One of the equations holds, or both, but for a number that lies outside the elements. */
+    private static void promise14AuditOfSharesThatOnlySeemProved() {
+        int x = 7;
+        int y = Model.power(4, x);
+        int a = Model.power(4, 10);
+        int d = Model.power(4, 10 * x);
+        for (int k = 0; k < 40; k++) {
+            int t = Model.power(4, k);
+            int u = Model.power(4, 10 * k);
+            seemsProved("another k", x, k, y, a, d, t, u, -1);
+            seemsProved("D above P", x, k, y, a, d + Model.P, t, u, 5);
+            seemsProved("t above P", x, k, y, a, d, t + Model.P, u, 5);
+            seemsProved("u above P", x, k, y, a, d, t, u + Model.P, 5);
+            seemsProved("another D", x, k, y, a, Model.times(d, 4), t, u, 5);
+            seemsProved("another t", x, k, y, a, d, Model.times(t, 4), u, 5);
+            seemsProved("another u", x, k, y, a, d, t, Model.times(u, 4), 5);
+            // where c is even, (-D)^c is D^c
+            seemsProved("minus D", x, k, y, a, Model.P - d, t, u, 5);
+        }
+    }
+
+    private static void seemsProved(String what, int x, int k, int y, int a, int d, int t, int u, int due) {
+        OpenPoll poll = closed(1);
+        poll.open(1, 0);
+        int c = Model.digestNumber(y, a, d, t, u);
+        poll.forge(5, 3, d);
+        poll.forge(5, 4, (k + c * x) % Model.Q);
+        poll.forge(5, 5, t);
+        poll.forge(5, 6, u);
+        Check.equal("audit: a share with " + what, poll.audit(), due);
     }
 
     private static void promise15Leaf() {
